@@ -6,13 +6,15 @@ import java.util.function.Supplier;
 final class Host {
     final OpcodeFrames x = new OpcodeFrames();
 
-    /** Feeds all bytes: the last answer. */
-    int feedAll(int... bytes) {
-        int answer = 0;
-        for (int each : bytes) {
-            answer = x.feed(each, 1);
+    /** Feeds all bytes, four at a time: an object has 512 calls. */
+    private void feedAll(int... bytes) {
+        int at = 0;
+        for (; at + 4 <= bytes.length; at += 4) {
+            x.feed(bytes[at] << 24 | bytes[at + 1] << 16 | bytes[at + 2] << 8 | bytes[at + 3], 4);
         }
-        return answer;
+        for (; at < bytes.length; at++) {
+            x.feed(bytes[at], 1);
+        }
     }
 
     /** "fine", or the name of the exception and the fault. */

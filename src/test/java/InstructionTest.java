@@ -11,6 +11,7 @@ public final class InstructionTest {
 
     public static void main(String[] args) {
         order();
+        whatLiesBelow();
         truth();
         items();
         equality();
@@ -51,6 +52,41 @@ public final class InstructionTest {
         due("SUB", "-7", code().load(3).load(10).op(Asm.SUB).op(Asm.RETURN));
     }
 
+    /** Each takes what it takes and no more, and leaves one. */
+    private static void whatLiesBelow() {
+        int[] tuple = Asm.tuple(Asm.number(5));
+        below("NEG", "-1", code().load(77).load(1).op(Asm.NEG));
+        below("NOT", "FALSE", code().load(77).load(1).op(Asm.NOT));
+        below("MUL", "6", code().load(77).load(2).load(3).op(Asm.MUL));
+        below("ADD", "5", code().load(77).load(2).load(3).op(Asm.ADD));
+        below("ADD of tuples", "(5,5)", code().load(77).load(tuple).load(tuple).op(Asm.ADD));
+        below("ITEM", "5", code().load(77).load(tuple).load(0).op(Asm.ITEM));
+        below("COMPARE", "TRUE", code().load(77).load(2).load(3).op(Asm.COMPARE, 0));
+        below("WALK", "walker", code().load(77).load(tuple).op(Asm.WALK));
+        below("TUPLE", "(2,3)", code().load(77).load(2).load(3).op(Asm.TUPLE, 2));
+        below("SPREAD", "5", code().load(77).load(tuple).op(Asm.SPREAD, 1));
+        below("FUNCTION", "function/1", code().load(77).load(FUNCTION_OF_ONE).op(Asm.FUNCTION));
+        below("CALL", "3", code().load(77).load(FUNCTION_OF_ONE).op(Asm.FUNCTION).load(3).op(Asm.CALL, 1));
+        below("CALL of RANGE", "range(0,3,1)", code().load(77).get("range").load(3).op(Asm.CALL, 1));
+        below("STORE", "2", code().load(77).load(2).load(3).put("x"));
+        below("SET", "2", code().load(77).load(2).load(3).op(Asm.SET, 0));
+        below("GO IF TRUE", "2", code().load(77).load(2).load(3).op(Asm.GO_IF_TRUE, 8));
+        due("NEXT at its end", "77", code().load(77).load(Asm.tuple()).op(Asm.WALK).op(Asm.NEXT, 2)
+                .op(Asm.RETURN).op(Asm.RETURN));
+        due("NEXT", "(77,TRUE,5)", code().load(77).load(tuple).op(Asm.WALK).op(Asm.NEXT, 10)
+                .op(Asm.SWAP).op(Asm.NOT).op(Asm.NOT).op(Asm.SWAP).op(Asm.GO_TO, 20)
+                .op(Asm.RETURN).op(Asm.TUPLE, 3).op(Asm.RETURN));
+    }
+
+    private static void below(String what, String top, Asm code) {
+        Host host = new Host();
+        CHECK.due(what, host.ending(code.op(Asm.TUPLE, 2).op(Asm.RETURN)), "(77," + top + ")");
+        int all = host.x.about(6);
+        host.x.again();
+        host.run(all - 2);
+        CHECK.due(what + " leaves no more", host.x.about(3), 2);
+    }
+
     private static void truth() {
         Object[][] values = {{Asm.none(), false}, {Asm.no(), false}, {Asm.yes(), true},
             {Asm.number(0), false}, {Asm.number(BigInteger.ZERO), false}, {Asm.number(-1), true},
@@ -67,6 +103,8 @@ public final class InstructionTest {
                     .load(1).op(Asm.RETURN).load(2).op(Asm.RETURN));
         }
         truthOf("an empty range", "TRUE", range(code(), 5, 5));
+        truthOf("an empty range with a wide step", "TRUE", range(code(), 5, 5, 7));
+        truthOf("an empty range downwards with a wide step", "TRUE", range(code(), 5, 5, -7));
         truthOf("a range", "FALSE", range(code(), 5, 6));
         truthOf("a range downwards", "FALSE", range(code(), 5, 4, -1));
         truthOf("an empty range downwards", "TRUE", range(code(), 4, 5, -1));
@@ -147,6 +185,8 @@ public final class InstructionTest {
         same("5 and -5", "FALSE", code().load(5).load(-5));
         same("tuples", "TRUE", code().load(deepTuple(1)).load(deepTuple(1)));
         same("tuples with another value deep in", "FALSE", code().load(deepTuple(1)).load(deepTuple(2)));
+        due("tuples 4 deep", "TRUE", twoNested(5, 5).op(Asm.COMPARE, 2).op(Asm.RETURN));
+        due("tuples 4 deep with other values", "FALSE", twoNested(5, 6).op(Asm.COMPARE, 2).op(Asm.RETURN));
         same("tuples with TRUE for 1", "TRUE", code().load(Asm.tuple(Asm.number(1)))
                 .load(Asm.tuple(Asm.yes())));
         same("tuples of other lengths", "FALSE", code().load(Asm.tuple(Asm.none()))
@@ -169,6 +209,11 @@ public final class InstructionTest {
                 code().get("over").load(6).op(Asm.COMPARE, 10).op(Asm.RETURN));
         due("COMPARE 10 of RANGEs", "raises 0",
                 code().get("range").get("range").op(Asm.COMPARE, 10).op(Asm.RETURN));
+    }
+
+    private static Asm twoNested(int first, int second) {
+        return code().load(Asm.tuple(Asm.tuple(Asm.tuple(Asm.number(first))))).op(Asm.TUPLE, 1)
+                .load(Asm.tuple(Asm.tuple(Asm.tuple(Asm.number(second))))).op(Asm.TUPLE, 1);
     }
 
     private static int[] deepTuple(int innermost) {
@@ -354,6 +399,9 @@ public final class InstructionTest {
         int[] setting = new Asm(1, 2, 2).load(8).op(Asm.SET, 1).op(Asm.LOCAL, 0).op(Asm.RETURN).bytes();
         due("locals of a call are unset", "raises 4", code().load(setting).op(Asm.FUNCTION).load(1)
                 .op(Asm.CALL, 1).op(Asm.POP).load(unset).op(Asm.FUNCTION).load(1).op(Asm.CALL, 1)
+                .op(Asm.RETURN));
+        due("locals of a call are unset, whatever lay above", "raises 4", code().load(unset)
+                .op(Asm.FUNCTION).load(1).load(2).load(3).op(Asm.POP).op(Asm.POP).op(Asm.CALL, 1)
                 .op(Asm.RETURN));
         due("each frame has its own locals", "(1,4)", code().load(4).op(Asm.SET, 1).load(setting)
                 .op(Asm.FUNCTION).load(1).op(Asm.CALL, 1).op(Asm.LOCAL, 1).op(Asm.TUPLE, 2).op(Asm.RETURN));

@@ -177,6 +177,9 @@ public final class LookTest {
         good("RAISE in a block", loads(2, 0).op(Asm.BLOCK, 4).op(Asm.CONSTANT, 0)
                 .op(Asm.RAISE, 1).op(Asm.RETURN));
         bad("UNBLOCK without one", end(loads(2, 0).op(Asm.UNBLOCK), 0));
+        bad("UNBLOCK without one, and RAISE", loads(2, 1).op(Asm.UNBLOCK).op(Asm.RAISE, 1));
+        good("what is above the inner block", innerLevel(1));
+        bad("what is below the inner block", innerLevel(2));
         bad("POP of what is below the block", loads(3, 1).op(Asm.BLOCK, 6).op(Asm.POP)
                 .op(Asm.UNBLOCK).op(Asm.GO_TO, 8).op(Asm.POP).op(Asm.RETURN));
         bad("DUP of what is below the block", loads(5, 1).op(Asm.BLOCK, 6).op(Asm.DUP)
@@ -205,7 +208,21 @@ public final class LookTest {
                 .op(Asm.UNBLOCK).op(Asm.RETURN).op(Asm.RETURN));
     }
 
-    /** All of them have the last instruction's place as their handler. */
+    /** The outer block has none, the inner one two; one comes above it, and so many are taken. */
+    private static Asm innerLevel(int pops) {
+        Asm code = loads(4, 0).op(Asm.BLOCK, 22).op(Asm.CONSTANT, 0).op(Asm.CONSTANT, 0)
+                .op(Asm.BLOCK, 14).op(Asm.CONSTANT, 0);
+        for (int i = 0; i < pops; i++) {
+            code.op(Asm.POP);
+        }
+        code.op(Asm.GO_TO, code.place());
+        while (code.place() < 22) {
+            code.op(0);
+        }
+        return code.op(Asm.RAISE, 1).op(Asm.RETURN);
+    }
+
+    /** All handlers raise again, each in a place of its own. */
     private static Asm nestedBlocks(int count) {
         Asm code = loads(2, 0);
         int raise = 4 * count + 2;
@@ -236,6 +253,8 @@ public final class LookTest {
         bad("blocks with other handlers", twoBlocks(10, 6, 0));
         good("blocks with the same handler", twoBlocks(10, 4, 0));
         bad("blocks with other levels", otherLevels());
+        good("inner blocks with the same handler", innerBlocks(10, 4));
+        bad("inner blocks with other handlers", innerBlocks(10, 6));
         bad("a handler that is come to without its block, with another height",
                 loads(3, 0).op(Asm.BLOCK, 2).op(Asm.UNBLOCK).op(Asm.CONSTANT, 0).op(Asm.RETURN));
         good("a handler that is come to without its block, with the same height",
@@ -247,6 +266,13 @@ public final class LookTest {
         return loads(3, 1).op(Asm.GO_IF_TRUE, 10).op(Asm.BLOCK, first).op(Asm.GO_TO, 12).op(0)
                 .op(Asm.BLOCK, second).op(Asm.CONSTANT, constant).op(Asm.RAISE, 1)
                 .op(Asm.RETURN).op(Asm.RETURN);
+    }
+
+    /** In a block with its handler at 22, two ways, each with a BLOCK, meet at place 14. */
+    private static Asm innerBlocks(int first, int second) {
+        return loads(3, 0).op(Asm.BLOCK, 20).op(Asm.CONSTANT, 0).op(Asm.GO_IF_TRUE, 12)
+                .op(Asm.BLOCK, first).op(Asm.GO_TO, 14).op(0).op(Asm.BLOCK, second)
+                .op(Asm.CONSTANT, 0).op(Asm.RAISE, 1).op(Asm.RAISE, 1).op(Asm.RAISE, 1).op(Asm.RETURN);
     }
 
     /** Both ways have 2 on the stack and one block with its handler at 18, that has 1 or 2. */

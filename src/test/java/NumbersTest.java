@@ -10,6 +10,9 @@ public final class NumbersTest {
     private static final BigInteger ONE = BigInteger.ONE;
     private static final Random RANDOM = new Random(20261115);
 
+    private static Host shared = new Host();
+    private static int uses;
+
     public static void main(String[] args) {
         Set<BigInteger> edges = edges();
         for (BigInteger left : edges) {
@@ -52,6 +55,16 @@ public final class NumbersTest {
             value = RANDOM.nextInt(20) > 0 ? value.setBit(i) : value.clearBit(i);
         }
         return RANDOM.nextBoolean() ? value : value.negate();
+    }
+
+    /** One serves several, so that what an earlier calculation left behind would be seen. */
+    private static Host host() {
+        if (uses == 8) {
+            shared = new Host();
+            uses = 0;
+        }
+        uses++;
+        return shared;
     }
 
     private static BigInteger floorDiv(BigInteger left, BigInteger right) {
@@ -99,7 +112,7 @@ public final class NumbersTest {
             want.append(compared(how, left.compareTo(right))).append(how < 3 ? "," : ")");
         }
         code.op(Asm.TUPLE, 9).op(Asm.RETURN);
-        CHECK.due(left + " and " + right, new Host().ending(code), want.toString());
+        CHECK.due(left + " and " + right, host().ending(code), want.toString());
         more(left, right);
     }
 
@@ -108,7 +121,7 @@ public final class NumbersTest {
                 .op(Asm.CONSTANT, 0).op(Asm.CONSTANT, 1).op(Asm.COMPARE, 5).op(Asm.TUPLE, 2)
                 .op(Asm.RETURN);
         int order = left.compareTo(right);
-        CHECK.due(left + " > and >= " + right, new Host().ending(code),
+        CHECK.due(left + " > and >= " + right, host().ending(code),
                 "(" + compared(4, order) + "," + compared(5, order) + ")");
     }
 

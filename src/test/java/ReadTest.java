@@ -57,6 +57,9 @@ public final class ReadTest {
         read("the sample", "fine", whole);
         for (int length = 0; length < whole.length; length++) {
             read("its first " + length, fault(length), cut(whole, length));
+            Host host = new Host();
+            host.read(whole);
+            CHECK.due("its first " + length + " behind it", host.read(cut(whole, length)), fault(length));
         }
     }
 
@@ -155,6 +158,7 @@ public final class ReadTest {
         constant("a lower digit of 65535", fault(START + 4), 108, 2, 0, 255, 255, 1, 0);
         constant("a lower digit of 0", "fine", 108, 2, 0, 0, 0, 1, 0);
         constant("the highest of two digits is 0", fault(START + 6), 108, 254, 255, 1, 0, 0, 0);
+        constant("n's bytes are no object", fault(START + 3), 40, 2, 108, 78, 78);
         constant("17 digits", fault(START + 1), Asm.number(BigInteger.ONE.shiftLeft(240)));
     }
 
@@ -197,6 +201,8 @@ public final class ReadTest {
         constant("CODE, 4 tuples", "fine", nested(Asm.tuple(), 3));
         constant("CODE, 4 tuples, a number", fault(START + 8), nested(Asm.number(1), 4));
         constant("CODE, 5 tuples", fault(START + 8), nested(Asm.tuple(), 4));
+        constant("one that is not so deep behind it", fault(START + 8),
+                Asm.tuple(Asm.tuple(Asm.tuple(Asm.tuple(Asm.none()), Asm.none()))));
         int[] code = new Asm(0, 0, 1).load(Asm.none()).op(Asm.RETURN).bytes();
         int[] flat = new Asm(0, 0, 1).get("x").op(Asm.RETURN).bytes();
         read("4 CODEs with a constant", "fine", wrapped(code, 3));

@@ -73,6 +73,10 @@ public final class RunTest {
         CHECK.due("below it", host.stack(1), "7");
         CHECK.due("run", host.run(200), "2");
         CHECK.due("its end", host.result(), "(7,KIND1)");
+        host.read(new Asm(0, 0, 2).op(Asm.BLOCK, 6).op(Asm.BLOCK, 6).op(Asm.UNBLOCK).op(Asm.GO_TO, 6)
+                .op(Asm.RETURN).op(Asm.RAISE, 1));
+        CHECK.due("two blocks and UNBLOCK", host.run(3), "3");
+        CHECK.due("one block", about(host), "1 1 6 0 1 -1 3 0");
         CHECK.due("UNBLOCK leaves the stack", host.ending(new Asm(0, 0, 4).load(1).op(Asm.BLOCK, 8)
                 .load(2).op(Asm.UNBLOCK).op(Asm.TUPLE, 2).op(Asm.RETURN).op(Asm.RETURN)), "(1,2)");
         CHECK.due("behind UNBLOCK none is caught", host.ending(new Asm(0, 0, 4).op(Asm.BLOCK, 8)
@@ -125,6 +129,7 @@ public final class RunTest {
         Host host = new Host();
         CHECK.due("8 frames", host.ending(recursion(6)), "0");
         CHECK.due("9 frames", host.ending(recursion(7)), "raises 5");
+        CHECK.due("all frames are gone", about(host), "3 0 0 0 0 5 55 1");
         host.read(recursion(7));
         int most = 0;
         for (int i = 0; i < 400 && host.x.about(0) == 1; i++) {
