@@ -317,16 +317,15 @@ public final class OpcodeFrames {
     }
 
     private int byteWithin(int least, int most) {
-        int value = at < fed && at < TAPE_MOST ? tape[at] : NONE;
         if (fault != NONE) {
             return NONE;
         }
-        if (value == NONE || value < least || value > most) {
+        if (at >= fed || at >= TAPE_MOST || tape[at] < least || tape[at] > most) {
             fault = at;
             return NONE;
         }
         at++;
-        return value;
+        return tape[at - 1];
     }
 
     private Value objectAt(int deep) {
@@ -671,7 +670,7 @@ public final class OpcodeFrames {
         private void takeUp(int slot) {
             height = heights[slot];
             blocks = blockCounts[slot];
-            for (int i = 0; i < blocks; i++) {
+            for (int i = 0; i < blocks && i < BLOCKS_MOST; i++) {
                 wayLevels[i] = levels[slot * BLOCKS_MOST + i];
                 wayHandlers[i] = handlers[slot * BLOCKS_MOST + i];
             }
@@ -729,7 +728,7 @@ public final class OpcodeFrames {
         private void note(int slot, int count, int withBlocks) {
             heights[slot] = count;
             blockCounts[slot] = withBlocks;
-            for (int i = 0; i < withBlocks; i++) {
+            for (int i = 0; i < withBlocks && i < BLOCKS_MOST; i++) {
                 levels[slot * BLOCKS_MOST + i] = wayLevels[i];
                 handlers[slot * BLOCKS_MOST + i] = wayHandlers[i];
             }
@@ -741,7 +740,7 @@ public final class OpcodeFrames {
 
         private boolean hasBlocks(int slot, int withBlocks) {
             boolean same = blockCounts[slot] == withBlocks;
-            for (int i = 0; same && i < withBlocks; i++) {
+            for (int i = 0; same && i < withBlocks && i < BLOCKS_MOST; i++) {
                 same = levels[slot * BLOCKS_MOST + i] == wayLevels[i]
                         && handlers[slot * BLOCKS_MOST + i] == wayHandlers[i];
             }
@@ -1000,15 +999,16 @@ public final class OpcodeFrames {
         }
 
         private void raise(int raised) {
+            Value value = raised < 0 || raised >= KINDS ? kinds[TYP] : kinds[raised];
             for (int i = 0; i < FRAMES_MOST && depth > 0; i++) {
                 Frame frame = innermost();
-                if (frame != null && frame.handle(kinds[raised])) {
+                if (frame != null && frame.handle(value)) {
                     return;
                 }
                 depth--;
             }
             state = ENDED_BY_EXCEPTION;
-            kind = raised;
+            kind = value.which;
         }
 
         private int leave(Frame frame) {
@@ -1180,18 +1180,22 @@ public final class OpcodeFrames {
             if (first != null && second != null) {
                 return Calculator.order(first, second) == 0;
             }
-            if (left instanceof Range range && right instanceof Range other) {
-                return range.hasSameThree(other);
+            if (left instanceof Range leftRange && right instanceof Range rightRange) {
+                return leftRange.hasSameThree(rightRange);
             }
-            if (left instanceof Tuple tuple && right instanceof Tuple other) {
-                boolean equal = tuple.items.length == other.items.length;
-                for (int i = 0; equal && i < tuple.items.length && i < other.items.length; i++) {
-                    equal = areEqual(tuple.items[i], other.items[i], deep + 1);
-                }
-                return equal;
+            if (left instanceof Tuple leftTuple && right instanceof Tuple rightTuple) {
+                return haveEqualItems(leftTuple.items, rightTuple.items, deep + 1);
             }
             // NONE is read anew from each tape; of the built ones there is one each.
             return left.tag == ROW_NONE && right.tag == ROW_NONE;
+        }
+
+        private boolean haveEqualItems(Value[] left, Value[] right, int deep) {
+            boolean equal = left.length == right.length;
+            for (int i = 0; equal && i < left.length && i < right.length; i++) {
+                equal = areEqual(left[i], right[i], deep);
+            }
+            return equal;
         }
 
         // ---- tuples and walkers ----
