@@ -978,8 +978,7 @@ public final class OpcodeFrames {
                 case POP: case SWAP: case ROT: case DUP: return shuffle(frame, what);
                 case NEG: return negate(frame);
                 case NOT: return replace(frame, 1, truth(isFalse(frame.fromTop(0))));
-                case MUL: case MOD: case SUB: case DIV: return calculate(frame, what);
-                case ADD: return add(frame);
+                case MUL: case MOD: case ADD: case SUB: case DIV: return calculate(frame, what);
                 case ITEM: return item(frame);
                 case COMPARE: return compare(frame, a);
                 case WALK: return walk(frame);
@@ -1099,6 +1098,10 @@ public final class OpcodeFrames {
         }
 
         private int calculate(Frame frame, int what) {
+            if (what == ADD && frame.fromTop(1) instanceof Tuple first
+                    && frame.fromTop(0) instanceof Tuple second) {
+                return join(frame, first.items, second.items);
+            }
             Num left = numberOf(frame.fromTop(1));
             Num right = numberOf(frame.fromTop(0));
             if (left == null || right == null) {
@@ -1117,19 +1120,17 @@ public final class OpcodeFrames {
             return number == null ? OVER : replace(frame, 2, number);
         }
 
-        private int add(Frame frame) {
-            if (frame.fromTop(1) instanceof Tuple left && frame.fromTop(0) instanceof Tuple right) {
-                if (left.items.length + right.items.length > TUPLE_MOST) {
-                    return OVER;
-                }
-                Value[] items = new Value[left.items.length + right.items.length];
-                for (int i = 0; i < items.length; i++) {
-                    int behind = i - left.items.length;
-                    items[i] = behind < 0 ? left.items[i] : right.items[behind];
-                }
-                return replace(frame, 2, new Tuple(items));
+        private static int join(Frame frame, Value[] left, Value[] right) {
+            int size = left.length + right.length;
+            if (size > TUPLE_MOST) {
+                return OVER;
             }
-            return calculate(frame, ADD);
+            Value[] items = new Value[size];
+            for (int i = 0; i < size; i++) {
+                int behind = i - left.length;
+                items[i] = behind < 0 ? left[i] : right[behind];
+            }
+            return replace(frame, 2, new Tuple(items));
         }
 
         private int item(Frame frame) {

@@ -17,10 +17,14 @@ final class Check {
         }
     }
 
+    boolean holds() {
+        return failed == 0 && passed > 0;
+    }
+
     /** Ends the test with exit code 1 if an answer was not the one that is due. */
     void end() {
         System.out.println(name + ": " + passed + " passed, " + failed + " failed");
-        if (failed > 0 || passed == 0) {
+        if (!holds()) {
             System.exit(1);
         }
     }

@@ -6,8 +6,18 @@ import java.util.function.Supplier;
 final class Host {
     final OpcodeFrames x = new OpcodeFrames();
 
+    /** One that has read the code, which must be as it must be. */
+    static Host of(Asm code) {
+        Host host = new Host();
+        String read = host.read(code);
+        if (!read.equals("fine")) {
+            throw new IllegalStateException("the test's own code: " + read);
+        }
+        return host;
+    }
+
     /** Feeds all bytes, four at a time: an object has 512 calls. */
-    private void feedAll(int... bytes) {
+    void feedAll(int... bytes) {
         int at = 0;
         for (; at + 4 <= bytes.length; at += 4) {
             x.feed(bytes[at] << 24 | bytes[at + 1] << 16 | bytes[at + 2] << 8 | bytes[at + 3], 4);
@@ -69,6 +79,15 @@ final class Host {
             case 3: return "raises " + x.about(5);
             default: return "has not ended";
         }
+    }
+
+    /** about(0) to about(7) as one text. */
+    String about() {
+        StringBuilder text = new StringBuilder();
+        for (int what = 0; what < 8; what++) {
+            text.append(what == 0 ? "" : " ").append(x.about(what));
+        }
+        return text.toString();
     }
 
     String result() {

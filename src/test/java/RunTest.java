@@ -14,43 +14,34 @@ public final class RunTest {
         CHECK.end();
     }
 
-    /** what 0 to 7 as one text. */
-    private static String about(Host host) {
-        StringBuilder text = new StringBuilder();
-        for (int what = 0; what < 8; what++) {
-            text.append(what == 0 ? "" : " ").append(host.x.about(what));
-        }
-        return text.toString();
-    }
-
     private static void fuel() {
         Host host = new Host();
         host.read(new Asm(0, 0, 1).load(5).put("a").op(Asm.GO_TO, 0));
         for (int n : new int[] {Integer.MIN_VALUE, -1, 0, 201, Integer.MAX_VALUE}) {
             CHECK.due("run(" + n + ")", host.run(n), "IllegalArgumentException");
         }
-        CHECK.due("nothing has run", about(host), "1 1 0 0 0 -1 0 0");
+        CHECK.due("nothing has run", host.about(), "1 1 0 0 0 -1 0 0");
         CHECK.due("run(1)", host.run(1), "1");
-        CHECK.due("one has run", about(host), "1 1 2 1 0 -1 1 0");
+        CHECK.due("one has run", host.about(), "1 1 2 1 0 -1 1 0");
         CHECK.due("run(1)", host.run(1), "1");
-        CHECK.due("two have run", about(host), "1 1 4 0 0 -1 2 1");
+        CHECK.due("two have run", host.about(), "1 1 4 0 0 -1 2 1");
         CHECK.due("run(200)", host.run(200), "200");
-        CHECK.due("202 have run", about(host), "1 1 2 1 0 -1 202 1");
+        CHECK.due("202 have run", host.about(), "1 1 2 1 0 -1 202 1");
         host.read(new Asm(0, 0, 1).load(5).op(Asm.RETURN));
         CHECK.due("run(1)", host.run(1), "1");
         CHECK.due("run(200)", host.run(200), "1");
-        CHECK.due("its end", about(host), "2 0 0 0 0 -1 2 1");
+        CHECK.due("its end", host.about(), "2 0 0 0 0 -1 2 1");
         for (int n : new int[] {-1, 0, 1, 200, 201}) {
             CHECK.due("run(" + n + ") at its end", host.run(n), "IllegalStateException");
         }
-        CHECK.due("its end again", about(host), "2 0 0 0 0 -1 2 1");
+        CHECK.due("its end again", host.about(), "2 0 0 0 0 -1 2 1");
     }
 
     private static void endByException() {
         Host host = new Host();
         host.read(new Asm(0, 1, 3).load(5).load(0).op(Asm.DIV).op(Asm.RETURN));
         CHECK.due("run", host.run(200), "3");
-        CHECK.due("its end", about(host), "3 0 0 0 0 1 3 0");
+        CHECK.due("its end", host.about(), "3 0 0 0 0 1 3 0");
         CHECK.due("no value", host.result(), "nothing");
         CHECK.due("no stack", host.stack(0), "nothing");
         CHECK.due("no local", host.local(0), "nothing");
@@ -62,13 +53,13 @@ public final class RunTest {
         host.read(new Asm(0, 0, 6).load(7).op(Asm.BLOCK, 14).load(8).op(Asm.BLOCK, 8).load(9).load(0)
                 .op(Asm.DIV).op(Asm.GO_TO, 14).op(Asm.RAISE, 1).op(Asm.TUPLE, 2).op(Asm.RETURN));
         CHECK.due("run(6)", host.run(6), "6");
-        CHECK.due("two blocks", about(host), "1 1 12 4 2 -1 6 0");
+        CHECK.due("two blocks", host.about(), "1 1 12 4 2 -1 6 0");
         CHECK.due("the exception counts", host.run(1), "1");
-        CHECK.due("in the inner handler", about(host), "1 1 16 3 1 -1 7 0");
+        CHECK.due("in the inner handler", host.about(), "1 1 16 3 1 -1 7 0");
         CHECK.due("the KIND", host.stack(0), "KIND1");
         CHECK.due("below it", host.stack(1), "8");
         CHECK.due("raised again", host.run(1), "1");
-        CHECK.due("in the outer handler", about(host), "1 1 18 2 0 -1 8 0");
+        CHECK.due("in the outer handler", host.about(), "1 1 18 2 0 -1 8 0");
         CHECK.due("the KIND", host.stack(0), "KIND1");
         CHECK.due("below it", host.stack(1), "7");
         CHECK.due("run", host.run(200), "2");
@@ -76,7 +67,7 @@ public final class RunTest {
         host.read(new Asm(0, 0, 2).op(Asm.BLOCK, 6).op(Asm.BLOCK, 6).op(Asm.UNBLOCK).op(Asm.GO_TO, 6)
                 .op(Asm.RETURN).op(Asm.RAISE, 1));
         CHECK.due("two blocks and UNBLOCK", host.run(3), "3");
-        CHECK.due("one block", about(host), "1 1 6 0 1 -1 3 0");
+        CHECK.due("one block", host.about(), "1 1 6 0 1 -1 3 0");
         CHECK.due("UNBLOCK leaves the stack", host.ending(new Asm(0, 0, 4).load(1).op(Asm.BLOCK, 8)
                 .load(2).op(Asm.UNBLOCK).op(Asm.TUPLE, 2).op(Asm.RETURN).op(Asm.RETURN)), "(1,2)");
         CHECK.due("behind UNBLOCK none is caught", host.ending(new Asm(0, 0, 4).op(Asm.BLOCK, 8)
@@ -104,15 +95,15 @@ public final class RunTest {
         CHECK.due("the inner frame's own block, then RAISE", host.ending(caught(returning)), "(1,KIND4)");
         host.read(caught(returning));
         CHECK.due("run(5)", host.run(5), "5");
-        CHECK.due("in the first frame", about(host), "1 1 10 3 1 -1 5 0");
+        CHECK.due("in the first frame", host.about(), "1 1 10 3 1 -1 5 0");
         CHECK.due("CALL", host.run(1), "1");
-        CHECK.due("in the second frame", about(host), "1 2 0 0 0 -1 6 0");
+        CHECK.due("in the second frame", host.about(), "1 2 0 0 0 -1 6 0");
         CHECK.due("its block, its CODE, FUNCTION, CALL", host.run(4), "4");
-        CHECK.due("in the third frame", about(host), "1 3 0 0 0 -1 10 0");
+        CHECK.due("in the third frame", host.about(), "1 3 0 0 0 -1 10 0");
         CHECK.due("what fails there", host.run(2), "2");
-        CHECK.due("in the second one's handler", about(host), "1 2 10 1 0 -1 12 0");
+        CHECK.due("in the second one's handler", host.about(), "1 2 10 1 0 -1 12 0");
         CHECK.due("RETURN", host.run(1), "1");
-        CHECK.due("in the first frame again", about(host), "1 1 12 3 1 -1 13 0");
+        CHECK.due("in the first frame again", host.about(), "1 1 12 3 1 -1 13 0");
         CHECK.due("the result", host.stack(0), "KIND4");
     }
 
@@ -129,7 +120,7 @@ public final class RunTest {
         Host host = new Host();
         CHECK.due("8 frames", host.ending(recursion(6)), "0");
         CHECK.due("9 frames", host.ending(recursion(7)), "raises 5");
-        CHECK.due("all frames are gone", about(host), "3 0 0 0 0 5 55 1");
+        CHECK.due("all frames are gone", host.about(), "3 0 0 0 0 5 55 1");
         host.read(recursion(7));
         int most = 0;
         for (int i = 0; i < 400 && host.x.about(0) == 1; i++) {
@@ -159,21 +150,21 @@ public final class RunTest {
         host.read(new Asm(0, 1, 2).load(5).op(Asm.SET, 0).op(Asm.BLOCK, 6).get("n").put("m")
                 .op(Asm.GO_TO, 6).put("n").op(Asm.LOCAL, 0).op(Asm.RETURN));
         CHECK.due("run(4)", host.run(4), "4");
-        CHECK.due("in the handler", about(host), "1 1 12 1 0 -1 4 0");
+        CHECK.due("in the handler", host.about(), "1 1 12 1 0 -1 4 0");
         CHECK.due("again", host.x.again(), true);
-        CHECK.due("at its beginning", about(host), "1 1 0 0 0 -1 0 0");
+        CHECK.due("at its beginning", host.about(), "1 1 0 0 0 -1 0 0");
         CHECK.due("locals are unset", host.local(0), "nothing");
         CHECK.due("run to its end", host.run(200), "7");
-        CHECK.due("its end", about(host), "2 0 0 0 0 -1 7 1");
+        CHECK.due("its end", host.about(), "2 0 0 0 0 -1 7 1");
         CHECK.due("its value", host.result(), "5");
         CHECK.due("again", host.x.again(), true);
-        CHECK.due("names stay", about(host), "1 1 0 0 0 -1 0 1");
+        CHECK.due("names stay", host.about(), "1 1 0 0 0 -1 0 1");
         CHECK.due("no value", host.result(), "nothing");
         CHECK.due("otherwise with the name", host.run(200), "200");
         host.ending(new Asm(0, 0, 1).get("nobody").op(Asm.RETURN));
         CHECK.due("ended by", host.x.about(5), 4);
         CHECK.due("again", host.x.again(), true);
-        CHECK.due("no KIND", about(host), "1 1 0 0 0 -1 0 2");
+        CHECK.due("no KIND", host.about(), "1 1 0 0 0 -1 0 2");
         CHECK.due("a wrong read", host.read(1), "IllegalArgumentException 0");
         CHECK.due("again", host.x.again(), true);
         CHECK.due("the one before", host.run(9), "1");
