@@ -228,6 +228,12 @@ public final class TermsBytesTest {
         }
     }
 
+    /** n's bytes are not read as an object, nor as a count of names, if n can't be there. */
+    static void bytes_longNumber_nIsNothingElse(Check check) {
+        check.due("n as NONE, NONE", constant(40, 3, 108, 78, 78), fault(START + 3));
+        check.due("a digit's upper byte as NONE", constant(40, 2, 108, 1, 0, 0, 0), fault(START + 6));
+    }
+
     static void bytes_longNumber_noDigits(Check check) {
         check.due("n = 0", value(108, 0, 0), "0");
         check.due("n = 0, and a digit behind it", constant(108, 0, 0, 1, 0), fault(START + 4));
@@ -291,6 +297,12 @@ public final class TermsBytesTest {
         check.due("CODE, 4 tuples", constant(Samples.nested(Asm.tuple(), 3)), "fine");
         check.due("CODE, 4 tuples, NONE", constant(Samples.nested(Asm.none(), 4)), fault(START + 8));
         check.due("CODE, 5 tuples", constant(Samples.nested(Asm.tuple(), 4)), fault(START + 8));
+    }
+
+    static void bytes_deep_noneWhereTheSixthWouldBe(Check check) {
+        check.due("4 tuples, the innermost of none", constant(40, 1, 40, 1, 40, 1, 40, 0), "fine");
+        check.due("4 tuples, the innermost of one that is not there", constant(40, 1, 40, 1, 40, 1, 40, 1),
+                fault(START + 8));
     }
 
     static void bytes_deep_everyObject(Check check) {

@@ -70,6 +70,40 @@ public final class TermsInstructionsTest {
         check.due("POP above one", ending(code().load(9).load(1).op(Asm.POP)), "9");
     }
 
+    /** The one below what they take stays, and nothing else is there. */
+    static void instructions_takeJustWhatTheyTake(Check check) {
+        int[] tuple = Asm.tuple(Asm.number(5));
+        takes(check, "NEG", "-2", code().load(77).load(2).op(Asm.NEG));
+        takes(check, "NOT", "FALSE", code().load(77).load(2).op(Asm.NOT));
+        takes(check, "WALK", "walker", code().load(77).load(tuple).op(Asm.WALK));
+        takes(check, "SPREAD", "5", code().load(77).load(tuple).op(Asm.SPREAD, 1));
+        takes(check, "FUNCTION", "function/1", code().load(77).load(Samples.SAME).op(Asm.FUNCTION));
+        takes(check, "ITEM", "5", code().load(77).load(tuple).load(0).op(Asm.ITEM));
+        takes(check, "ADD of tuples", "(5,5)", code().load(77).load(tuple).load(tuple).op(Asm.ADD));
+        takes(check, "CALL of RANGE", "range(0,3,1)", Samples.range(code().load(77), 3));
+        takes(check, "CALL", "3", code().load(77).load(Samples.SAME).op(Asm.FUNCTION).load(3).op(Asm.CALL, 1));
+        takes(check, "STORE", "2", code().load(77).load(2).load(3).put("x"));
+        takes(check, "SET", "2", code().load(77).load(2).load(3).op(Asm.SET, 0));
+        String[] results = {"6", "2", "5", "-1", "0"};
+        int[] whats = {Asm.MUL, Asm.MOD, Asm.ADD, Asm.SUB, Asm.DIV};
+        for (int i = 0; i < whats.length; i++) {
+            takes(check, "" + whats[i], results[i], code().load(77).load(2).load(3).op(whats[i]));
+        }
+        for (int how = 0; how < 6; how++) {
+            takes(check, "COMPARE " + how, how < 2 || how == 3 ? "TRUE" : "FALSE",
+                    code().load(77).load(2).load(3).op(Asm.COMPARE, how));
+        }
+    }
+
+    private static void takes(Check check, String what, String top, Asm code) {
+        int end = code.place();
+        Host host = Host.of(code.op(Asm.GO_TO, end));
+        for (int i = 0; i < 50 && (host.x.about(1) != 1 || host.x.about(2) != end); i++) {
+            host.run(1);
+        }
+        check.due(what, host.x.about(3) + " " + host.stack(0) + " " + host.stack(1), "2 " + top + " 77");
+    }
+
     /** Into the tenth place, which is the last that there may be. */
     static void instructions_dup_intoTheFullStack(Check check) {
         Asm code = code();

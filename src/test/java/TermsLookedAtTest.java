@@ -469,6 +469,26 @@ public final class TermsLookedAtTest {
         return code.op(Asm.GO_TO, 16).op(Asm.RETURN);
     }
 
+    /** Two ways that go on side by side, each in a loop of its own, in blocks of their own. */
+    static void lookedAt_severalWays_eachKeepsItsOwnBlocks(Check check) {
+        good(check, "other handlers", sideBySide(loads(4, 1), 0));
+        good(check, "other handlers and levels", sideBySide(loads(4, 2), 1));
+        good(check, "other handlers, in a block around both", loads(4, 0).op(Asm.BLOCK, 32)
+                .op(Asm.CONSTANT, 0).op(Asm.GO_IF_TRUE, 20).op(Asm.BLOCK, 22).op(Asm.CONSTANT, 0).op(Asm.NOT)
+                .op(Asm.NOT).op(Asm.POP).op(Asm.GO_TO, 8).op(0).op(Asm.BLOCK, 10).op(Asm.CONSTANT, 0)
+                .op(Asm.NOT).op(Asm.POP).op(Asm.GO_TO, 22).op(Asm.RAISE, 1).op(Asm.RAISE, 1).op(Asm.RETURN));
+    }
+
+    /** The one way's block has so many less than the other's. */
+    private static Asm sideBySide(Asm code, int less) {
+        int start = code.place();
+        code.op(Asm.GO_IF_TRUE, start + 14).op(Asm.BLOCK, 22).op(Asm.CONSTANT, 0).op(Asm.NOT).op(Asm.NOT)
+                .op(Asm.POP).op(Asm.GO_TO, start + 4);
+        code.op(less == 0 ? Asm.GO_ON : Asm.POP).op(Asm.BLOCK, 10).op(Asm.CONSTANT, 0).op(Asm.NOT).op(Asm.POP)
+                .op(Asm.GO_TO, start + 18);
+        return code.op(Asm.RETURN).op(Asm.RAISE, 1);
+    }
+
     static void lookedAt_severalWays_toAHandler(Check check) {
         good(check, "with as many and the same blocks", loads(3, 0).op(Asm.BLOCK, 4).op(Asm.UNBLOCK)
                 .op(Asm.CONSTANT, 0).op(Asm.RETURN));

@@ -74,6 +74,30 @@ public final class TermsValuesTest {
         check.due("2^238 by 2", of(Asm.MUL, ONE.shiftLeft(238), big(2)), "" + ONE.shiftLeft(239));
     }
 
+    /** Products of digits of 32767, where every carry is the largest. */
+    static void values_numberOf240Bits_carries(Check check) {
+        BigInteger half = ONE.shiftLeft(120).subtract(ONE);
+        check.due("(2^120 - 1) squared", of(Asm.MUL, half, half), "" + half.multiply(half));
+        check.due("32767 squared", of(Asm.MUL, big(32767), big(32767)), "1073676289");
+        check.due("2^30 - 1 squared", of(Asm.MUL, big(1073741823), big(1073741823)), "1152921502459363329");
+        check.due("the most less 2^225", of(Asm.SUB, MOST, ONE.shiftLeft(225)),
+                "" + MOST.subtract(ONE.shiftLeft(225)));
+        check.due("2^239 less 1", of(Asm.SUB, ONE.shiftLeft(239), ONE), "" + ONE.shiftLeft(239).subtract(ONE));
+    }
+
+    /** A short calculation behind a long one has nothing of it. */
+    static void values_numberOf240Bits_shortBehindLong(Check check) {
+        BigInteger half = ONE.shiftLeft(120).subtract(ONE);
+        int[][] whats = {{Asm.MUL, 6}, {Asm.ADD, 5}, {Asm.SUB, 1}, {Asm.DIV, 1}, {Asm.MOD, 1}};
+        for (int before : new int[] {Asm.MUL, Asm.ADD, Asm.SUB, Asm.DIV, Asm.MOD}) {
+            for (int[] what : whats) {
+                check.due(what[0] + " behind " + before, ending(code().load(Asm.number(half.add(big(7))))
+                        .load(Asm.number(half.shiftRight(40))).op(before).op(Asm.POP).load(3).load(2)
+                        .op(what[0])), "" + what[1]);
+            }
+        }
+    }
+
     static void values_numberOf240Bits_byNegDivMod(Check check) {
         check.due("NEG of the most", ending(code().load(Asm.number(MOST)).op(Asm.NEG)), "" + MOST.negate());
         check.due("NEG of the least", ending(code().load(Asm.number(MOST.negate())).op(Asm.NEG)), "" + MOST);
