@@ -151,8 +151,10 @@ public final class OpcodeFrames {
     }
 
     public void read() throws IllegalArgumentException, IllegalStateException {
-        Code code = codeOnTape();
-        if (code == null) {
+        beginTape();
+        Code code = codeAt(1);
+        endTape();
+        if (fault != NONE) {
             throw new IllegalArgumentException("the tape holds no CODE");
         }
         if (!allAreAsTheyMustBe()) {
@@ -172,7 +174,15 @@ public final class OpcodeFrames {
         if (n < 1 || n > FUEL_MOST) {
             throw new IllegalArgumentException("n is not 1 .. 200");
         }
-        return machine.work(n);
+        int done = 0;
+        while (done < n && machine.state == UNDER_WAY) {
+            int raised = machine.step();
+            if (raised != FINE) {
+                machine.raise(raised);
+            }
+            done++;
+        }
+        return done;
     }
 
     public boolean again() {
@@ -283,16 +293,17 @@ public final class OpcodeFrames {
 
     // ---- the tape: at is the next byte; behind a fault nothing is read any more ----
 
-    private Code codeOnTape() {
+    private void beginTape() {
         at = 0;
         fault = NONE;
         found.clear();
-        Code code = codeAt(1);
+    }
+
+    private void endTape() {
         if (at < fed) {
             refuse();
         }
         fed = 0;
-        return fault == NONE ? code : null;
     }
 
     private boolean allAreAsTheyMustBe() {
@@ -337,7 +348,7 @@ public final class OpcodeFrames {
             case BYTE_NONE: return single(ROW_NONE);
             case BYTE_FALSE: return single(ROW_FALSE);
             case BYTE_TRUE: return single(ROW_TRUE);
-            case BYTE_INT: return shortNumber();
+            case BYTE_INT: return Num.of(fourBytes());
             case BYTE_LONG: return longNumber();
             case BYTE_TUPLE: return tupleAt(deep);
             case BYTE_CODE: return codeAt(deep);
@@ -352,13 +363,13 @@ public final class OpcodeFrames {
         return new Value(tag, 0);
     }
 
-    private Value shortNumber() {
+    private int fourBytes() {
         at++;
         int value = 0;
         for (int i = 0; i < 4; i++) {
             value |= byteWithin(0, 255) << (8 * i);
         }
-        return Num.of(value);
+        return value;
     }
 
     private Value longNumber() {
@@ -566,21 +577,12 @@ public final class OpcodeFrames {
     }
 
     private static final class Walker extends Value {
-        private final Value over;
-        private long place;
+        final Value over;
+        long place;
 
         Walker(Value over) {
             super(ROW_WALKER, 0);
             this.over = over;
-        }
-
-        /** The next one, or null at its end. */
-        Value next() {
-            Value item = over.itemAt(place);
-            if (item != null) {
-                place++;
-            }
-            return item;
         }
     }
 
@@ -950,22 +952,13 @@ public final class OpcodeFrames {
             return slot < storedCount ? stored[slot] : null;
         }
 
-        /** How many instructions of at most so many were done. */
-        int work(int fuel) {
-            int done = 0;
-            while (done < fuel && state == UNDER_WAY) {
-                done++;
-                Frame frame = innermost();
-                int raised = frame == null ? TYP : step(frame);
-                if (raised != FINE) {
-                    raise(raised);
-                }
+        /** Does one instruction, but leaves what it raises to the caller. */
+        int step() {
+            count++;
+            Frame frame = innermost();
+            if (frame == null) {
+                return TYP;
             }
-            count += done;
-            return done;
-        }
-
-        private int step(Frame frame) {
             int what = frame.code.byteAt(frame.place);
             int a = frame.code.byteAt(frame.place + 1);
             frame.place += 2;
@@ -997,7 +990,7 @@ public final class OpcodeFrames {
             }
         }
 
-        private void raise(int raised) {
+        void raise(int raised) {
             Value value = raised < 0 || raised >= KINDS ? kinds[TYP] : kinds[raised];
             for (int i = 0; i < FRAMES_MOST && depth > 0; i++) {
                 Frame frame = innermost();
@@ -1237,8 +1230,9 @@ public final class OpcodeFrames {
 
         private static int next(Frame frame, int a) {
             if (frame.fromTop(0) instanceof Walker walker) {
-                Value item = walker.next();
+                Value item = walker.over.itemAt(walker.place);
                 if (item != null) {
+                    walker.place++;
                     frame.push(item);
                 } else {
                     frame.drop(1);
@@ -1399,15 +1393,18 @@ public final class OpcodeFrames {
         Num sum(Num left, Num right, boolean minus) {
             boolean rightNegative = right.negative != minus;
             if (left.negative == rightNegative) {
-                return added(left.digits, right.digits, left.negative);
+                add(left.digits, right.digits);
+                return made(work, DIGITS_MOST + 1, left.negative);
             }
             if (orderOfSizes(left.digits, right.digits) >= 0) {
-                return lessened(left.digits, right.digits, left.negative);
+                lessen(left.digits, right.digits);
+                return made(work, DIGITS_MOST, left.negative);
             }
-            return lessened(right.digits, left.digits, rightNegative);
+            lessen(right.digits, left.digits);
+            return made(work, DIGITS_MOST, rightNegative);
         }
 
-        private Num added(int[] left, int[] right, boolean negative) {
+        private void add(int[] left, int[] right) {
             int carry = 0;
             for (int i = 0; i < DIGITS_MOST; i++) {
                 int digit = digitAt(left, i) + digitAt(right, i) + carry;
@@ -1415,17 +1412,15 @@ public final class OpcodeFrames {
                 carry = digit >> DIGIT_BITS;
             }
             work[DIGITS_MOST] = carry;
-            return made(work, DIGITS_MOST + 1, negative);
         }
 
-        private Num lessened(int[] larger, int[] smaller, boolean negative) {
+        private void lessen(int[] larger, int[] smaller) {
             int borrow = 0;
             for (int i = 0; i < DIGITS_MOST; i++) {
                 int digit = digitAt(larger, i) - digitAt(smaller, i) - borrow;
                 work[i] = digit & DIGIT_MASK;
                 borrow = digit < 0 ? 1 : 0;
             }
-            return made(work, DIGITS_MOST, negative);
         }
 
         /** null if it has more than 240 bits. */
